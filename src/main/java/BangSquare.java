@@ -753,7 +753,7 @@ public final class BangSquare {
         }
     }
 
-    /** A text that has been read: its lines as code for a row of numbers, those needed first ahead. */
+    /** A text that has been read: code in which what is joined stands ahead of what joins it. */
     private static final class Script {
         // Codes of words and signs are as the reader tells them; a code's number stands in its low bits.
         static final int OR = 1;
@@ -937,7 +937,6 @@ public final class BangSquare {
             isLaw = law;
             at = 0;
             state = AT_LINE;
-            compared = false;
             lines = 0;
             open = 0;
             brackets = 0;

@@ -70,6 +70,7 @@ final class HearerTest {
         holds(s, 0, "2+3*4=14", true);
         holds(s, 0, "7/2*3=9", true);
         holds(s, 0, "7*3/2=10", true);
+        holds(s, 0, "7/1=7", true);
         holds(s, 0, "0-7<0-6", true);
         holds(s, 0, "1-8=0-7", true);
         // 99999 * 42949 wraps to -110245; a part of it goes towards 0.
@@ -233,9 +234,27 @@ final class HearerTest {
         check.due("0, 1, 2 by the least two", s.trials(7), 96);
         s.spot(0, cell(35, 0));
         check.due("a spot anew", s.trials(12), 1);
+        fewerThoughGreater();
         check.due("0", s.trials(0), NONE);
         check.due("16", s.trials(16), NONE);
         check.due("-1", s.trials(-1), NONE);
+    }
+
+    private static void fewerThoughGreater() {
+        BangSquare s = new BangSquare();
+        s.hearer(cell(0, 0), 0);
+        s.hearer(cell(59, 0), 0);
+        Check.text(s, 0, "turn bang when near=20;");
+        Check.text(s, 1, "turn bang when near=39;");
+        Check.text(s, 2, "turn bang when near=50;");
+        s.spot(0, cell(50, 0));
+        s.spot(1, cell(50, 10));
+        check.due("0 and 1 are not parted", s.trials(7), NONE);
+        s.spot(2, cell(0, 20));
+        check.due("50 and 20 together", s.trials(7), 5);
+        s.spot(3, cell(20, 0));
+        // From 20, 0 the first hearer is 20 and the second 39 off: 0, 1 and 2 turn three ways.
+        check.due("one alone, though its number is greater", s.trials(7), 8);
     }
 
     private static void promise28Ball() {

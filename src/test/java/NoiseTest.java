@@ -132,6 +132,7 @@ final class NoiseTest {
         for (int k = 0; k < 10; k++) {
             s.spot(k, 60 * k * k / 2 + 5 * k);
         }
+        check.due("all ten told", s.apart(1023, 0), 45);
         check.due("six of ten", Integer.bitCount(s.roofs(6, 5)), 6);
         check.due("k 7", s.roofs(7, 0), NONE);
     }

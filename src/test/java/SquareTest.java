@@ -15,6 +15,7 @@ final class SquareTest {
         promise7CrackBackwards();
         promise7Back();
         promise7BackEnds();
+        promise7TenWalls();
         promise7Wrong();
         check.close();
     }
@@ -233,6 +234,20 @@ final class SquareTest {
         check.due("one cell", s.gets(0, cell(10, 20), 53), cell(0, 15));
         check.due("the end a", s.gets(0, cell(10, 20), 54), cell(0, 15));
         check.due("the end b", s.gets(0, cell(10, 20), 55), cell(0, 15));
+    }
+
+    private static void promise7TenWalls() {
+        BangSquare s = new BangSquare();
+        s.shot(cell(10, 10), 0, NONE, 0);
+        for (int w = 0; w < 10; w++) {
+            s.wall(true, 50 + w, 0, 59, 10 * w);
+        }
+        // Off x = 59 the mirrored point is 108, 10; to 20, 10: 88; loud 102, 10 hundredths.
+        check.due("time off wall 9", s.gets(0, cell(20, 10), 19), 264);
+        check.due("loud off wall 9", s.gets(0, cell(20, 10), 39), 10);
+        check.due("cell of wall 9", s.gets(0, cell(20, 10), 59), cell(59, 10));
+        check.due("all ten", s.gets(0, cell(20, 10), 4), 10);
+        check.due("what 20 is no wall", s.gets(0, cell(20, 10), 20), NONE);
     }
 
     private static void promise7Wrong() {

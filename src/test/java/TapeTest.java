@@ -247,6 +247,7 @@ final class TapeTest {
         check.due("the same", s.must(0, 0, 0), NONE);
         check.due("spot 2", s.must(0, 0, 2), NONE);
         check.due("tape 4", s.must(4, 0, 1), NONE);
+        fewerThoughGreater();
         BangSquare later = new BangSquare();
         later.spot(0, cell(10, 10));
         later.spot(1, cell(20, 10));
@@ -255,6 +256,20 @@ final class TapeTest {
         later.click(0, 1000);
         later.click(0, 1060);
         check.due("wall 1 alone", later.must(0, 0, 1), 2);
+    }
+
+    private static void fewerThoughGreater() {
+        BangSquare s = twoWalls();
+        s.click(3, 1000);
+        s.click(3, 1036);
+        s.click(3, 1060);
+        s.set(3, 12);
+        check.due("36 and 60 by both", s.must(3, 0, 1), 3);
+        // Off x = 37 the sound goes 44 cells and lies 102 behind; off x = 28 it goes 26 and lies 48 behind, 12 off both.
+        s.wall(true, 37, 0, 59, 0);
+        check.due("not by 102", s.must(3, 0, 1), 3);
+        s.wall(true, 28, 0, 59, 0);
+        check.due("48 has both, though its number is greater", s.must(3, 0, 1), 8);
     }
 
     private static void promise23() {
