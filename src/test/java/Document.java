@@ -1,0 +1,70 @@
+import java.io.IOException;
+import java.nio.file.Files;
+import java.nio.file.Path;
+import java.util.ArrayList;
+import java.util.List;
+import java.util.Map;
+import java.util.TreeMap;
+
+/** The document's parts ("Terms", "Terms 1" to "Terms 4", "Promise 1" to "Promise 31") as running text. */
+final class Document {
+    private static final Path PLACE = Path.of("../shared/DOC.md");
+    private static final Map<String, String> PARTS = read();
+
+    private Document() {
+    }
+
+    static boolean isHere() {
+        return !PARTS.isEmpty();
+    }
+
+    static Map<String, String> parts() {
+        return PARTS;
+    }
+
+    static boolean says(String part, String sentence) {
+        return PARTS.getOrDefault(part, "").contains(sentence);
+    }
+
+    /** A sentence ends with a point behind a sign; the points of "0 .. 9" stand behind blanks. */
+    static List<String> sentences(String part) {
+        return List.of(PARTS.getOrDefault(part, "").split("(?<=[^ .]\\.) (?=\\S)"));
+    }
+
+    private static Map<String, String> read() {
+        Map<String, String> parts = new TreeMap<>();
+        if (!Files.isReadable(PLACE)) {
+            return parts;
+        }
+        String part = "";
+        for (String line : lines()) {
+            if (line.startsWith("## ")) {
+                part = line.substring(3).replaceAll(":.*", "");
+            } else if (line.startsWith("==== ")) {
+                part = "Terms " + line.charAt(5);
+                add(parts, part, line.substring(8));
+            } else if (line.startsWith("`") && line.contains("`: ")) {
+                add(parts, part, line.substring(line.indexOf("`: ") + 3));
+            } else if (!line.startsWith("```")) {
+                add(parts, part, line);
+            }
+        }
+        parts.keySet().removeIf(name -> !name.matches("Terms( [1-4])?|Promise [0-9]+"));
+        return parts;
+    }
+
+    private static void add(Map<String, String> parts, String part, String line) {
+        String bare = line.replaceAll("\\s+", " ").trim();
+        if (!bare.isEmpty()) {
+            parts.merge(part, bare, (had, more) -> had + " " + more);
+        }
+    }
+
+    private static List<String> lines() {
+        try {
+            return new ArrayList<>(Files.readAllLines(PLACE));
+        } catch (IOException e) {
+            return new ArrayList<>();
+        }
+    }
+}
