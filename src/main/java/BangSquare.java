@@ -29,6 +29,8 @@ public final class BangSquare {
     private static final int LAST_TRUE_TIME = 9999999;
     private static final int MOST_DOUBT = 999;
     private static final int FAR_OFF = 9999;
+    // Far above what any of two times can be apart.
+    private static final int BEYOND_ALL = 1000000000;
 
     private final Square square;
     private final Heard heard;
@@ -1345,8 +1347,8 @@ public final class BangSquare {
 
         /** Whether there is such a number for all of them but one; a from NONE asks nothing. */
         boolean agreeWithout(int left) {
-            int least = Integer.MIN_VALUE;
-            int most = Integer.MAX_VALUE;
+            int least = -BEYOND_ALL;
+            int most = BEYOND_ALL;
             for (int i = 0; i < count; i++) {
                 if (i != left && from[i] != NONE) {
                     least = Math.max(least, from[i] - place[i]);

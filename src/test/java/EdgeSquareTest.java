@@ -19,6 +19,7 @@ final class EdgeSquareTest {
         backEnds();
         backTimeAndLoud();
         sectors();
+        constants();
         promise1();
         promise2();
         promise3();
@@ -399,6 +400,11 @@ final class EdgeSquareTest {
         edge.due("2, -1", s.comes(32, 90, 2), 7);
         edge.due("the same at 0", s.comes(0, 0, 2), NONE);
         edge.due("the same at 3599", s.comes(3599, 3599, 2), NONE);
+    }
+
+    private static void constants() {
+        edge.says("Terms 4", "The constants: `NONE = -1`: None.");
+        edge.due("NONE", BangSquare.NONE, -1);
     }
 
     // ---- promises ----
