@@ -97,7 +97,14 @@ final class EdgeSquareTest {
         }
         BangSquare far = withShot(cell(59, 0), 0, NONE, 0);
         far.wall(true, 0, 0, 59, 0);
+        edge.due("a mirrored point 118 and 49 off: 127", far.gets(0, cell(59, 49), 10), 381);
+        edge.due("a mirrored point 118 and 50 off: 128", far.gets(0, cell(59, 50), 10), 384);
         edge.due("the farthest mirrored point, 118 and 59 off: 131", far.gets(0, cell(59, 59), 10), 393);
+        for (int y = 0; y < 60; y++) {
+            int root = far.gets(0, cell(59, y), 10) / 3;
+            int sum = 118 * 118 + y * y;
+            edge.due("root of " + sum, root * root <= sum && (root + 1) * (root + 1) > sum, true);
+        }
     }
 
     // ---- Terms 1 ----
@@ -146,6 +153,11 @@ final class EdgeSquareTest {
         edge.due("at 0", s.comes(0, 0, 1), 1000);
         edge.due("at 1", s.comes(0, 1, 1), 909);
         edge.due("at 83", s.comes(0, 3599, 1), 107);
+        for (int d = 0; d < 60; d++) {
+            edge.due("at " + d, s.comes(0, d, 1), 10000 / (d + 10));
+        }
+        // 73 is a part of 10001, not of 10000.
+        edge.due("at 63", s.comes(0, cell(23, 59), 1), 136);
         s.set(0, 9);
         s.set(1, 9);
         edge.due("neither by SLOW nor by WIND", s.comes(0, 10, 1), 500);
@@ -527,6 +539,12 @@ final class EdgeSquareTest {
                 edge.due("how loud", s.gets(0, cell(20, 10), 30 + w), w < walls ? 10000 / (60 + 2 * w) : NONE);
                 edge.due("the cell", s.gets(0, cell(20, 10), 50 + w), w < walls ? cell(40 + w, 10) : NONE);
             }
+        }
+        // A wall that is not there yet has no cell, not even 0, 0.
+        for (int[] ends : new int[][] {{cell(0, 10), cell(0, 20)}, {cell(10, 0), cell(20, 0)}, {cell(10, 0), cell(10, 0)}}) {
+            BangSquare bare = withShot(ends[0], 0, NONE, 0);
+            edge.due("no wall, none BACK", bare.gets(0, ends[1], 4), 0);
+            edge.due("no wall 0", bare.gets(0, ends[1], 10), NONE);
         }
         edge.says("Promise 7", "1 the CRACK's (NONE without), 2 the CELL from which the CRACK comes, 3 how LOUD it is");
         BangSquare without = withShot(0, 0, NONE, 5);

@@ -144,6 +144,14 @@ final class EdgeTapeTest {
         return s;
     }
 
+    private static BangSquare allTapes() {
+        BangSquare s = oneWall();
+        for (int tape = 0; tape < 4; tape++) {
+            s.click(tape, 1000);
+        }
+        return s;
+    }
+
     private static int fitting(int margin, int... times) {
         BangSquare s = oneWall();
         if (margin >= 0) {
@@ -494,6 +502,7 @@ final class EdgeTapeTest {
         s.spot(2, cell(10, 10));
         s.spot(9, cell(30, 10));
         edge.range("tape", v -> s.fits(v, 0, 1, 0) != NONE, 3, 3);
+        edge.range("tape, all with a click", v -> allTapes().fits(v, 0, 1, 0) != NONE, 0, 3);
         edge.range("what", v -> s.fits(3, 0, 1, v) != NONE, 0, 1);
         for (int a = -1; a <= 10; a++) {
             for (int b = -1; b <= 10; b++) {
@@ -520,6 +529,7 @@ final class EdgeTapeTest {
         edge.due("0 and 8", s.couple(0, 0), 8);
         edge.says("Promise 21", "NONE if there is none, one can't be, or another what.");
         edge.range("tape", v -> s.couple(v, 0) != NONE, 0, 0);
+        edge.range("tape, all with a click", v -> allTapes().couple(v, 0) != NONE, 0, 3);
         edge.range("what", v -> s.couple(0, v) != NONE, 0, 2);
         BangSquare one = new BangSquare();
         one.click(0, 5);
@@ -545,6 +555,7 @@ final class EdgeTapeTest {
         edge.due("wall 0", s.must(2, 0, 1), 1);
         s.spot(9, cell(50, 10));
         edge.range("tape", v -> s.must(v, 0, 1) != NONE, 2, 2);
+        edge.range("tape, all with a click", v -> allTapes().must(v, 0, 1) != NONE, 0, 3);
         for (int a = -1; a <= 10; a++) {
             for (int b = -1; b <= 10; b++) {
                 boolean told = (a == 0 || a == 1 || a == 9) && (b == 0 || b == 1 || b == 9);

@@ -150,6 +150,8 @@ final class EdgeTextTest {
             edge.due("fault(0) tells 0", s.fault(0), 0);
             edge.due("fault(1) tells none", s.fault(1), NONE);
             edge.due("the bytes are none", s.end(1), false);
+            edge.due("just none", s.end(0), true);
+            edge.due("twenty more are twenty", s.feed(BLANKS, BLANKS, BLANKS, BLANKS, BLANKS), 20);
         }
         edge.range("text(k) of none", k -> new BangSquare().text(k) == 0, 0, 4);
     }
@@ -202,9 +204,30 @@ final class EdgeTextTest {
         edge.due("without one, the place", s.fault(1), NONE);
         Check.text(s, 0, "y");
         edge.due("at 0", s.fault(1), 0);
+        beginsAnew();
         edge.says("Promise 11", "NONE for another what.");
         edge.refused("with a fault", v -> s.fault(v) != NONE, -1, 2, Integer.MIN_VALUE, Integer.MAX_VALUE);
         edge.refused("without", v -> new BangSquare().fault(v) != NONE, -1, 1, 2, Integer.MIN_VALUE, Integer.MAX_VALUE);
+    }
+
+    /** What an earlier text left open, told or counted has nothing to do with the latest one. */
+    private static void beginsAnew() {
+        BangSquare s = new BangSquare();
+        s.hearer(0, 0);
+        s.shot(5, 0, NONE, 0);
+        String[] broken = {"turn no when ((((((((", "turn no when not not not not not not not not", "turn no when not", "turn no when 1=1 or 0=",
+            "turn no when 1+1*", "turn no when (1=1 or (1=1 and not", "turn no when 1", "turn no when 1=1 and 7/", "turn", "turn no",
+            "turn no when 1=1;".repeat(12) + "turn"};
+        String[] whole = {"turn bang when 1=1;", "turn bang when not 1=2;", "turn bang when ((((((((1=1))))))));",
+            "turn bang when not not not not not not not not 1=1;", "turn no when 1=2;".repeat(11) + "turn bang when 2*3=6;"};
+        for (String before : broken) {
+            for (String text : whole) {
+                edge.due("'" + before + "'", Check.text(s, 0, before), NONE);
+                edge.due("'" + text + "' behind '" + before + "'", Check.text(s, 0, text), text.length() > 100 ? 12 : 1);
+                edge.due("no fault", s.fault(0), 0);
+                edge.due("it is so", s.turning(0, 0, 0), 0);
+            }
+        }
     }
 
     // ---- tokens ----

@@ -205,7 +205,7 @@ final class RefusedTest {
         Check.text(s, 4, "shot when loud>150; truck when ahead<60; board when 1=1;");
     }
 
-    private static void full(BangSquare s) {
+    static void full(BangSquare s) {
         for (int i = 0; i < 20; i++) {
             s.wall(i % 2 == 0, 3 * i, i, 59, 5 * i);
             s.spot(i, 37 * i + 600 * (i % 5));
