@@ -449,8 +449,8 @@ final class EdgeTapeTest {
         int count = 0;
         int first = NONE;
         int last = NONE;
-        BangSquare by = new BangSquare();
         for (int c = 0; c < 3600; c++) {
+            BangSquare by = new BangSquare();
             int way = by.comes(c, cell(10, 10), 0);
             boolean alike = by.comes(c, cell(20, 10), 0) == way && by.comes(c, cell(10, 20), 0) == way && by.comes(c, cell(20, 20), 0) == way;
             if (alike) {

@@ -212,15 +212,15 @@ final class EdgeTextTest {
 
     /** What an earlier text left open, told or counted has nothing to do with the latest one. */
     private static void beginsAnew() {
-        BangSquare s = new BangSquare();
-        s.hearer(0, 0);
-        s.shot(5, 0, NONE, 0);
         String[] broken = {"turn no when ((((((((", "turn no when not not not not not not not not", "turn no when not", "turn no when 1=1 or 0=",
             "turn no when 1+1*", "turn no when (1=1 or (1=1 and not", "turn no when 1", "turn no when 1=1 and 7/", "turn", "turn no",
             "turn no when 1=1;".repeat(12) + "turn"};
         String[] whole = {"turn bang when 1=1;", "turn bang when not 1=2;", "turn bang when ((((((((1=1))))))));",
             "turn bang when not not not not not not not not 1=1;", "turn no when 1=2;".repeat(11) + "turn bang when 2*3=6;"};
         for (String before : broken) {
+            BangSquare s = new BangSquare();
+            s.hearer(0, 0);
+            s.shot(5, 0, NONE, 0);
             for (String text : whole) {
                 edge.due("'" + before + "'", Check.text(s, 0, before), NONE);
                 edge.due("'" + text + "' behind '" + before + "'", Check.text(s, 0, text), text.length() > 100 ? 12 : 1);

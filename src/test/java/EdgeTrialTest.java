@@ -88,6 +88,14 @@ final class EdgeTrialTest {
         edge.due("gap is 87: laws 1 and 2 alike", s.trials(6), NONE);
         s.ball(0, 20);
         edge.due("by QUICK 20 it is 30: unlike", s.trials(6), 1);
+        BangSquare soon = new BangSquare();
+        soon.set(0, 1);
+        soon.set(1, 9);
+        soon.hearer(8, 0);
+        soon.spot(0, 0);
+        soon.ball(1, 99);
+        Check.text(soon, 0, "turn crack when crack>0;");
+        edge.due("with the wind it cracks as it is let off, and that is a crack, too", soon.trials(3), 1);
     }
 
     private static void fewestSpots() {

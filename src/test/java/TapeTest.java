@@ -111,9 +111,11 @@ final class TapeTest {
         check.due("first by wind", s.from(1), cell(8, 8));
         int count = 0;
         for (int c = 0; c < 3600; c++) {
-            int first = s.comes(c, cell(10, 10), 0);
-            boolean second = s.comes(c, cell(20, 10), 0) == first + 20;
-            count += second && s.comes(c, cell(10, 20), 0) == first + 30 ? 1 : 0;
+            BangSquare by = new BangSquare();
+            by.set(1, 8);
+            int first = by.comes(c, cell(10, 10), 0);
+            boolean second = by.comes(c, cell(20, 10), 0) == first + 20;
+            count += second && by.comes(c, cell(10, 20), 0) == first + 30 ? 1 : 0;
         }
         check.due("by wind", s.from(0), count);
         s.set(1, 0);

@@ -2,7 +2,10 @@ import java.lang.reflect.InvocationTargetException;
 import java.lang.reflect.Method;
 import java.lang.reflect.Modifier;
 
-/** No call throws, for any arguments, in an empty state, a full one, and what such calls make of them. */
+/**
+ * LANGUAGE.md, rule 7: no call throws, for any arguments, in an empty state, a full one, and what such calls make of
+ * them. Answers are not asked, so it goes beyond the 512 calls after which they are free.
+ */
 final class WildTest {
     private static final int[] WILD = {Integer.MIN_VALUE, -2, -1, 0, 1, 4, 9, 10, 400, 3599, 200000, Integer.MAX_VALUE};
     private static final int[] FEW = {Integer.MIN_VALUE, -1, 0, 9, 59, Integer.MAX_VALUE};
