@@ -6,7 +6,10 @@ import java.util.List;
 import java.util.Map;
 import java.util.TreeMap;
 
-/** The document's parts ("Terms", "Terms 1" to "Terms 4", "Promise 1" to "Promise 31") as running text. */
+/**
+ * The document's parts as running text: "What it is", "The public face", "Terms", "Terms 1" to "Terms 4",
+ * "Promise 1" to "Promise 31" and "Not promised".
+ */
 final class Document {
     private static final Path PLACE = Path.of("../shared/DOC.md");
     private static final Map<String, String> PARTS = read();
@@ -26,9 +29,8 @@ final class Document {
         return PARTS.getOrDefault(part, "").contains(sentence);
     }
 
-    /** A sentence ends with a point behind a sign; the points of "0 .. 9" stand behind blanks. */
-    static List<String> sentences(String part) {
-        return List.of(PARTS.getOrDefault(part, "").split("(?<=[^ .]\\.) (?=\\S)"));
+    static String text(String part) {
+        return PARTS.getOrDefault(part, "");
     }
 
     private static Map<String, String> read() {
@@ -49,7 +51,7 @@ final class Document {
                 add(parts, part, line);
             }
         }
-        parts.keySet().removeIf(name -> !name.matches("Terms( [1-4])?|Promise [0-9]+"));
+        parts.keySet().removeIf(String::isEmpty);
         return parts;
     }
 

@@ -151,7 +151,7 @@ final class EdgeHearerTest {
     }
 
     private static void firstLine() {
-        edge.says("Terms 2", "by the first line whose B is so");
+        edge.says("Terms 2", "By a LAW, of a SHOT, one TURNS: by the first line whose B is so");
         BangSquare s = new BangSquare();
         s.hearer(cell(30, 30), 0);
         s.shot(cell(40, 30), 0, NONE, 0);

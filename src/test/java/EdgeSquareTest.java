@@ -76,7 +76,7 @@ final class EdgeSquareTest {
     }
 
     private static void roots() {
-        edge.says("Terms", "the ROOT (the greatest whole number whose square is not above it)");
+        edge.says("Terms", "DISTANCE of two points is the ROOT (the greatest whole number whose square is not above it)");
         int[][] roots = {{0, 0, 0}, {1, 0, 1}, {1, 1, 1}, {2, 0, 2}, {2, 2, 2}, {3, 0, 3}, {3, 4, 5}, {5, 1, 5}, {8, 4, 8},
             {9, 0, 9}, {9, 1, 9}, {12, 12, 16}, {17, 0, 17}, {59, 0, 59}, {59, 59, 83}};
         for (int[] r : roots) {
@@ -110,7 +110,7 @@ final class EdgeSquareTest {
     // ---- Terms 1 ----
 
     private static void slowAndWind() {
-        edge.says("Terms 1", "SLOW (1 .. 9, 3 at first)");
+        edge.says("Terms 1", "SOUND takes SLOW (1 .. 9, 3 at first) a CELL of DISTANCE; by WIND");
         edge.due("at first", new BangSquare().comes(0, 10, 0), 30);
         edge.range("set(0, v)", v -> new BangSquare().set(0, v), 1, 9);
         for (int v = 1; v <= 9; v++) {
@@ -221,7 +221,7 @@ final class EdgeSquareTest {
     }
 
     private static void wayOfABall() {
-        edge.says("Terms 1", "n the greater one of both differences (as far as from 0); its points k 0 .. n are x + dx k by n, y + dy k by n (downwards).");
+        edge.says("Terms 1", "THE WAY of a BALL: n the greater one of both differences (as far as from 0); its points k 0 .. n are x + dx k by n, y + dy k by n (downwards).");
         int middle = cell(30, 30);
         for (int[] p : new int[][] {{30, 30}, {31, 30}, {32, 31}, {33, 31}, {34, 32}}) {
             onWay(middle, cell(34, 32), p[0], p[1], true);
@@ -249,7 +249,7 @@ final class EdgeSquareTest {
     }
 
     private static void bang() {
-        edge.says("Terms 1", "its BANG, at TIME and as SOUND COMES from its CELL.");
+        edge.says("Terms 1", "What an EAR at a CELL GETS of a SHOT: its BANG, at TIME and as SOUND COMES from its CELL.");
         edge.due("at 0 where it is", withShot(5, 0, NONE, 0).gets(0, 5, 0), 0);
         edge.due("at 99999 where it is", withShot(5, 99999, NONE, 0).gets(0, 5, 0), 99999);
         BangSquare s = withShot(0, 99999, NONE, 0);
@@ -260,7 +260,7 @@ final class EdgeSquareTest {
     }
 
     private static void crack() {
-        edge.says("Terms 1", "the least TIME and QUICK times DISTANCE (from the SHOT's CELL) by 10 and as SOUND COMES from the point (the first of several)");
+        edge.says("Terms 1", "the least TIME and QUICK times DISTANCE (from the SHOT's CELL) by 10 and as SOUND COMES from the point (the first of several): from there;");
         // By 30 for ten cells the ball is as quick as sound: each point up to the ear is as soon.
         BangSquare even = withShot(0, 0, 10, 30);
         edge.due("as quick as sound: the first", even.gets(0, 10, 2), 0);
@@ -383,7 +383,7 @@ final class EdgeSquareTest {
     }
 
     private static void sectors() {
-        edge.says("Terms 1", "0 dx above 0, dy 0 or more, dy below dx");
+        edge.says("Terms 1", "SECTOR of one point from another (dx, dy): 0 dx above 0, dy 0 or more, dy below dx");
         sector(1, 0, 0);
         sector(29, 0, 0);
         sector(2, 1, 0);

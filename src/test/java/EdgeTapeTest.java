@@ -48,7 +48,7 @@ final class EdgeTapeTest {
     }
 
     private static void gotTimes() {
-        edge.says("Terms 3", "from .. to, TIMES (0 .. 199999).");
+        edge.says("Terms 3", "What each GOT of one sound may be told: from .. to, TIMES (0 .. 199999).");
         BangSquare s = new BangSquare();
         s.ear(0);
         edge.allowed("from .. 199999", v -> s.got(0, v, 199999), 0, 199999);
@@ -221,7 +221,7 @@ final class EdgeTapeTest {
     }
 
     private static void theCouple() {
-        edge.says("Terms 3", "of all couples of unlike SPOTS that with most that have one, of several with the fewest that have none, then the least by SPOT of the SHOT, then of the EAR.");
+        edge.says("Terms 3", "THE COUPLE of a TAPE: of all couples of unlike SPOTS that with most that have one, of several with the fewest that have none, then the least by SPOT of the SHOT, then of the EAR.");
         BangSquare s = new BangSquare();
         s.click(0, 1000);
         s.spot(9, cell(10, 10));
@@ -280,7 +280,7 @@ final class EdgeTapeTest {
     }
 
     private static void fewestWalls() {
-        edge.says("Terms 3", "THE FEWEST of all sets of WALLS by which just as many CLICKS (of all of it) have a sound of BANG and BACK not farther than MARGIN as by all; of several the least set.");
+        edge.says("Terms 3", "A WALL MUST BE THERE for a TAPE and a couple: THE FEWEST of all sets of WALLS by which just as many CLICKS (of all of it) have a sound of BANG and BACK not farther than MARGIN as by all; of several the least set.");
         BangSquare none = new BangSquare();
         none.spot(0, cell(10, 10));
         none.spot(1, cell(20, 10));

@@ -233,7 +233,7 @@ final class EdgeTextTest {
     // ---- tokens ----
 
     private static void letters() {
-        edge.says("Terms 2", "letters as many as stand together are KEYWORDS (those told for such a TEXT) or none");
+        edge.says("Terms 2", "TOKENS: letters as many as stand together are KEYWORDS (those told for such a TEXT) or none");
         bad(0, "turnno when 1=1;", 1, 0);
         bad(0, "turn nowhen 1=1;", 1, 5);
         bad(0, "turn n o when 1=1;", 1, 5);
@@ -328,7 +328,8 @@ final class EdgeTextTest {
     }
 
     private static void grammar(boolean law, String head, String heads, String values) {
-        edge.says("Terms 2", law ? "{turn (bang | crack | wall | no) when B ;}." : "{(shot | truck | board) when B ;}.");
+        edge.says("Terms 2", law ? "HEARERS' LAWS 0 .. 3 are TEXTS (empty at first) = {turn (bang | crack | wall | no) when B ;}."
+                : "THE RULES are a TEXT (empty at first) = {(shot | truck | board) when B ;}.");
         String line = head + " when ";
         String unit = "NUMBER " + values;
         String claim = unit + "not (";

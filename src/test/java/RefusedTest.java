@@ -171,7 +171,7 @@ final class RefusedTest {
 
     // ---- states ----
 
-    private static void some(BangSquare s) {
+    static void some(BangSquare s) {
         s.set(0, 2);
         s.set(1, 3);
         s.set(2, -4);
@@ -251,7 +251,8 @@ final class RefusedTest {
         return s;
     }
 
-    private static List<Integer> answers(int group, BangSquare s) {
+    /** What a state answers to one of six groups of questions; 4 and 5 change it. */
+    static List<Integer> answers(int group, BangSquare s) {
         List<Integer> all = new ArrayList<>();
         switch (group) {
             case 0 -> sounds(s, all);
