@@ -339,7 +339,9 @@ final class EdgeReadingTest {
             BangSquare s = new BangSquare();
             BangSquare by = new BangSquare();
             int[] cells = {place(i), place(i + 3), place(2 * i + 1), place(i + 11)};
+            // SLOW 1 and much wind: what goes downwards, and 0 at least, shows from where to where it comes.
             for (BangSquare one : new BangSquare[] {s, by}) {
+                one.set(0, 1 + i % 2);
                 one.set(1, i % 19 - 9);
                 one.set(2, 5 * i % 19 - 9);
             }
@@ -347,7 +349,7 @@ final class EdgeReadingTest {
                 s.spot(k, cells[k]);
             }
             int set = 3 + 4 * (i % 4);
-            int doubt = 17 * i % 300;
+            int doubt = 7 * i % 50;
             edge.due("set " + set + ", doubt " + doubt + ", " + i, s.apart(set, doubt), dueApart(by, cells, set, doubt));
         }
     }
